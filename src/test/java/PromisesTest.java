@@ -383,6 +383,14 @@ public final class PromisesTest {
         lesser.run(8);
         dueChosen(lesser, "1 2");
 
+        AreaGoals same = sea(4, 4, 4, 4);
+        same.size(2);
+        same.run(16);
+        dueChosen(same, "0 1");
+        same.far(0, 1, -1);
+        same.run(16);
+        dueChosen(same, "0 2");
+
         AreaGoals first = sea(5, 4, 3, 2);
         first.size(2);
         first.far(2, 3, -1);
@@ -526,6 +534,11 @@ public final class PromisesTest {
         x.bar(0);
         x.run(0);
         due("clash(0) behind 2", 7, x.clash(0));
+        x.holds(0, 0, 1, 1);
+        x.goal(0, 1, 2);
+        x.run(2);
+        due("clash(0)", 0, x.clash(0));
+        due("clash(1)", 7, x.clash(1));
     }
 
     private static void proved() {
@@ -718,6 +731,12 @@ public final class PromisesTest {
         due("loss(0, 1)", 5, x.loss(0, 1));
         due("loss(1, 0)", 0, x.loss(1, 0));
         due("loss(1, 1)", 1, x.loss(1, 1));
+        x.port(0, 2, 1);
+        due("loss(2, 0): 1 of 1", 1, x.loss(2, 0));
+        due("loss(2, 1)", 1, x.loss(2, 1));
+        x.port(2, 2, 3);
+        due("loss(2, 0): 1 of 4", 1, x.loss(2, 0));
+        due("loss(2, 1)", 4, x.loss(2, 1));
         due("loss(0, 2)", NONE, x.loss(0, 2));
         due("loss(0, -1)", NONE, x.loss(0, -1));
         due("loss(-1, 0)", NONE, x.loss(-1, 0));
@@ -731,6 +750,12 @@ public final class PromisesTest {
 
     private static void fair() {
         promise = "21 fair";
+        AreaGoals untold = sea(1);
+        untold.port(0, 0, 5);
+        untold.size(1);
+        due("run(2): all hours are lost, no fair share was told", 0, untold.run(2));
+        untold.fair(99, 100);
+        due("run(2)", 1, untold.run(2));
         AreaGoals x = sea(1, 2, 3);
         due("above -1", false, x.fair(-1, 1));
         due("above > below", false, x.fair(2, 1));
@@ -762,6 +787,15 @@ public final class PromisesTest {
         due("fair(100, 100)", true, x.fair(100, 100));
         x.run(8);
         dueChosen(x, "0");
+        for (int port = 0; port < 4; port++) {
+            AreaGoals one = sea(1, 2);
+            one.size(1);
+            one.port(0, port, 3);
+            one.port(1, port, 2);
+            one.fair(1, 2);
+            one.run(4);
+            dueChosen(one, "1");
+        }
     }
 
     private static void border() {
@@ -921,6 +955,19 @@ public final class PromisesTest {
         due("far(2, 0, 5)", true, x.far(2, 0, 5));
         due("run(8)", 0, x.run(8));
         dueChosen(x, "0 1 2");
+
+        AreaGoals pair = sea(0, 0);
+        pair.must(1);
+        pair.run(2);
+        due("tie(0): they can be together", 0, pair.tie(0));
+        pair.far(1, 0, -1);
+        due("tie(0): they are too far", NONE, pair.tie(0));
+        pair.far(1, 0, 1);
+        due("tie(0): not any more", 0, pair.tie(0));
+        pair.far(0, 1, -1);
+        due("tie(0): too far, from the other side", NONE, pair.tie(0));
+        pair.far(0, 1, 0);
+        due("tie(0): not any more", 0, pair.tie(0));
     }
 
     private static void tie() {
