@@ -725,6 +725,13 @@ public final class EdgesTest {
         dueLoss(x, 1, 999999, 1999999);
         x.port(0, 1, 1000000);
         dueLoss(x, 1, 1, 2);
+        x.port(0, 1, 1);
+        dueLoss(x, 1, 1, 1000001);
+        x.port(1, 1, 0);
+        dueLoss(x, 1, 1, 1);
+        x.port(0, 1, 0);
+        x.port(1, 1, 1);
+        dueLoss(x, 1, 0, 1);
     }
 
     private static void greatestSums() {
@@ -770,9 +777,11 @@ public final class EdgesTest {
                 x.bar(other);
             }
             due("must(c)", true, x.must(c));
+            due("must(c), again", true, x.must(c));
             due("run(1)", 0, x.run(1));
             dueChosen(x, "" + c);
             due("bar(c)", true, x.bar(c));
+            due("bar(c), again", true, x.bar(c));
             due("run(1)", 0, x.run(1));
             dueChosen(x, "");
         }
